@@ -207,6 +207,14 @@ public final class HandWorksTest {
             Check.eraseWholly(chip, 2);
         }
         Check.same("6: a bit that is stuck already", 32, chip.cell(69, 1));
+        BusyChip other = new BusyChip();
+        other.set(1, 1);
+        other.set(2, 31);
+        for (int i = 1; i <= 32; i++) {
+            Check.same("28: no stuck bit yet", 0, other.count(12));
+            Check.eraseWholly(other, 0);
+        }
+        Check.same("28: the stuck bit of the cell 0", 1, other.count(12));
     }
 
     private static void lock() {
@@ -338,6 +346,7 @@ public final class HandWorksTest {
         Check.same("10: set aside by the clerk", 1, byClerk.work(1, 4));
         Check.same("10: whoever set it aside", 22, byClerk.resume());
         Check.same("10: not set aside any more", 0, byClerk.work(0, 4));
+        Check.same("10: nothing is, nor by the clerk", 0, byClerk.work(1, 4));
         Check.same("10: its urgency", 0, byClerk.work(0, 3));
         Check.same("10: suspend() by hand", 22, byClerk.suspend());
         Check.same("10: then it is set aside by hand", 0, byClerk.work(1, 4));

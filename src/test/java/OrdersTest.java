@@ -78,6 +78,9 @@ public final class OrdersTest {
         chip.load(9);
         chip.post(0, 7, 3);
         Check.same("13: a later order has its own values", 1, chip.order(0, 5));
+        chip.withdraw(3);
+        chip.post(1, 7, 3);
+        Check.same("13: and a later erase has none", 0, chip.order(0, 5));
     }
 
     private static void pass() {

@@ -109,6 +109,13 @@ public final class PlansTest {
         Check.same("33: an order waits behind it for ever", BusyChip.NONE, chip.freeIn());
         chip.resume();
         Check.same("33: it goes on", 48, chip.freeIn());
+        BusyChip clerks = new BusyChip();
+        clerks.post(1, 0, 0);
+        clerks.pass(4);
+        clerks.load(1);
+        clerks.post(0, 255, 9);
+        clerks.pass(2);
+        Check.same("33: the clerk has set an erase aside, and no more waits", 20, clerks.freeIn());
         BusyChip long1 = new BusyChip();
         long1.set(1, 96);
         for (int i = 0; i < 10; i++) {
@@ -232,6 +239,14 @@ public final class PlansTest {
             chip.pass(7);
             Check.same("38: in the midst", digestOf(chip, true, "t1;w!~"), chip.digest());
         }
+        Check.lockWholly(chip, 1, 0);
+        chip.arm();
+        Check.same("38: the sector 0 is locked", digestOf(chip, true, "t1;w!~"), chip.digest());
+        Check.lockWholly(chip, 0, 0);
+        Check.writeWholly(chip, 0, 1);
+        chip.load(2);
+        Check.same("38: it misses at the cell 0", digestOf(chip, true, "t1;w!~", 2), chip.digest());
+        chip.unload();
         chip.arm();
         chip.erase(2);
         chip.suspend();

@@ -10,6 +10,7 @@ public final class TextsTest {
         keep();
         goBack();
         undo();
+        undoBringsAllBack();
         Check.end("TextsTest");
     }
 
@@ -199,6 +200,70 @@ public final class TextsTest {
             counts[what] = chip.count(what);
         }
         return counts;
+    }
+
+    /** Changes all that there is, and takes it back by goBack() and by undo(); what goes on then is the same, too. */
+    private static void undoBringsAllBack() {
+        BusyChip chip = new BusyChip();
+        chip.set(1, 1);
+        chip.set(2, 1);
+        Check.eraseWholly(chip, 0);
+        Check.writeWholly(chip, 50, 1, 2, 3);
+        Check.lockWholly(chip, 1, 0);
+        chip.set(0, 5);
+        chip.pass(4);
+        chip.post(1, 4, 1);
+        chip.pass(2);
+        Check.load(chip, 7, 6, 5);
+        chip.post(0, 77, 9);
+        Check.load(chip, 9, 8);
+        chip.post(0, 80, 8);
+        chip.post(1, 3, 2);
+        chip.pass(7);
+        Check.load(chip, 1);
+        long before = Check.stateOf(chip);
+        chip.keep();
+        changeAll(chip);
+        Check.isTrue("22: all is changed", before != Check.stateOf(chip));
+        chip.goBack();
+        Check.same("21: all is back", before, Check.stateOf(chip));
+        long[] first = later(chip);
+        chip.goBack();
+        Check.undoable("22: pass of many ticks", chip, () -> chip.pass(200));
+        long[] second = later(chip);
+        for (int i = 0; i < first.length; i++) {
+            Check.same("22: what goes on behind it, " + i, first[i], second[i]);
+        }
+        BusyChip locks = new BusyChip();
+        locks.arm();
+        locks.lock(1, 0);
+        Check.undoable("22: undo() in the midst of a change of the locks", locks, () -> locks.pass(10));
+        locks.pass(5);
+        Check.same("22: the side that was to be", 0, locks.count(4));
+    }
+
+    private static void changeAll(BusyChip chip) {
+        chip.cut();
+        Check.eraseWholly(chip, 1);
+        Check.eraseWholly(chip, 1);
+        Check.eraseWholly(chip, 1);
+        Check.writeWholly(chip, 99, 3, 2, 1);
+        Check.lockWholly(chip, 4, 1);
+        chip.freeze();
+        chip.arm();
+        Check.load(chip, 44, 45);
+        chip.post(0, 0, 0);
+        Check.load(chip, 46);
+        chip.set(4, 9);
+    }
+
+    private static long[] later(BusyChip chip) {
+        long[] states = new long[30];
+        for (int i = 0; i < states.length; i++) {
+            chip.pass(1);
+            states[i] = Check.stateOf(chip);
+        }
+        return states;
     }
 
     private static void undo() {
