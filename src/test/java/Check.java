@@ -1,13 +1,20 @@
 /** What the tests share: they count what is not as due, and end with exit code 1 if there was anything. */
-final class Check {
+class Check {
     private static int wrong = 0;
     private static int looked = 0;
-
-    private Check() {
-    }
+    private static String place = "";
 
     interface Call {
         long answer();
+    }
+
+    /** What is told from now on is told with these words ahead. */
+    static void about(String words) {
+        place = words;
+    }
+
+    static int looks() {
+        return looked;
     }
 
     static void same(String what, long want, long got) {
@@ -98,7 +105,7 @@ final class Check {
     static void tell(String text) {
         wrong++;
         if (wrong <= 40) {
-            System.out.println(text);
+            System.out.println(place + text);
         }
     }
 

@@ -1,3 +1,4 @@
+import java.io.IOException;
 import java.lang.reflect.Constructor;
 import java.lang.reflect.Field;
 import java.lang.reflect.Method;
@@ -118,8 +119,16 @@ public final class FaceTest {
         }
     }
 
-    private static void source() throws Exception {
-        String source = Files.readString(Path.of("src/main/java/BusyChip.java"));
+    static String sourceText() {
+        try {
+            return Files.readString(Path.of("src/main/java/BusyChip.java"));
+        } catch (IOException e) {
+            throw new IllegalStateException(e);
+        }
+    }
+
+    private static void source() {
+        String source = sourceText();
         String[] words = {
             "try", "catch", "finally", "synchronized", "assert", "package", "instanceof", "->", "::", "System.out",
             "Random", "nanoTime", "Thread", "doubleToLongBits(", "floatToIntBits(", "protected ",

@@ -213,98 +213,45 @@ public final class PlansTest {
             chip.cut();
         }
         Check.isTrue("36: no bit is 1", chip.onesShare() == 0.0);
-        Check.same("38: with no bit", digestOf(chip, false, ""), chip.digest());
+        Check.same("38: with no bit", Digests.due(chip, false, ""), chip.digest());
         Check.isTrue("37: an erase that is lost is no erasure", chip.meanWear() == 0.375f);
     }
 
     private static void digest() {
         BusyChip chip = new BusyChip();
-        Check.same("38: a new chip", digestOf(chip, false, ""), chip.digest());
+        Check.same("38: a new chip", Digests.due(chip, false, ""), chip.digest());
         chip.set(1, 1);
         chip.set(2, 1);
         for (int i = 0; i < 9; i++) {
             Check.eraseWholly(chip, i % 3);
-            Check.same("38: behind erasures", digestOf(chip, false, ""), chip.digest());
+            Check.same("38: behind erasures", Digests.due(chip, false, ""), chip.digest());
         }
         Check.load(chip, 1, 2, 3, 4, 5, 6, 7, 8, 255);
-        Check.same("38: values are loaded", digestOf(chip, false, "", 1, 2, 3, 4, 5, 6, 7, 8, 255), chip.digest());
+        Check.same("38: values are loaded", Digests.due(chip, false, "", 1, 2, 3, 4, 5, 6, 7, 8, 255), chip.digest());
         chip.post(0, 37, 3);
         chip.post(1, 7, 8);
         chip.set(1, 50);
         chip.arm();
         chip.keep();
         Check.text(chip, "t1;w!~");
-        Check.same("38: orders wait", digestOf(chip, true, "t1;w!~"), chip.digest());
+        Check.same("38: orders wait", Digests.due(chip, true, "t1;w!~"), chip.digest());
         for (int i = 0; i < 10; i++) {
             chip.pass(7);
-            Check.same("38: in the midst", digestOf(chip, true, "t1;w!~"), chip.digest());
+            Check.same("38: in the midst", Digests.due(chip, true, "t1;w!~"), chip.digest());
         }
         Check.lockWholly(chip, 1, 0);
         chip.arm();
-        Check.same("38: the sector 0 is locked", digestOf(chip, true, "t1;w!~"), chip.digest());
+        Check.same("38: the sector 0 is locked", Digests.due(chip, true, "t1;w!~"), chip.digest());
         Check.lockWholly(chip, 0, 0);
         Check.writeWholly(chip, 0, 1);
         chip.load(2);
-        Check.same("38: it misses at the cell 0", digestOf(chip, true, "t1;w!~", 2), chip.digest());
+        Check.same("38: it misses at the cell 0", Digests.due(chip, true, "t1;w!~", 2), chip.digest());
         chip.unload();
         chip.arm();
         chip.erase(2);
         chip.suspend();
         chip.load(77);
         chip.post(1, 3, 9);
-        Check.same("38: set aside", digestOf(chip, true, "t1;w!~", 77), chip.digest());
-    }
-
-    /** The digest as the document tells it, from the other answers. */
-    private static long digestOf(BusyChip chip, boolean snapshot, String buffer, int... loaded) {
-        long[] hash = {3607};
-        for (int what = 0; what <= 15; what++) {
-            add(hash, chip.count(what));
-        }
-        for (int i = 0; i <= 4; i++) {
-            add(hash, chip.setting(i));
-        }
-        for (int cell = 0; cell < 256; cell++) {
-            add(hash, chip.cell(cell, 0));
-            add(hash, chip.cell(cell, 1));
-        }
-        for (int sector = 0; sector < 8; sector++) {
-            for (int what = 0; what <= 6; what++) {
-                add(hash, chip.sector(sector, what));
-            }
-        }
-        for (int aside = 0; aside <= 1; aside++) {
-            for (int what = 0; what <= 4; what++) {
-                add(hash, chip.work(aside, what));
-            }
-        }
-        for (int rank = 0; rank < chip.count(10); rank++) {
-            for (int what = 0; what <= 5; what++) {
-                add(hash, chip.order(rank, what));
-            }
-        }
-        for (int value : loaded) {
-            add(hash, value);
-        }
-        add(hash, chip.why(1, 0));
-        add(hash, chip.why(2, 0));
-        add(hash, chip.why(3, 0));
-        add(hash, chip.misses(0));
-        add(hash, chip.fits());
-        add(hash, chip.freeIn());
-        add(hash, chip.leastWorn());
-        add(hash, chip.commonest());
-        add(hash, Double.doubleToLongBits(chip.onesShare()));
-        add(hash, Float.floatToIntBits(chip.meanWear()));
-        add(hash, snapshot ? 1 : 0);
-        add(hash, buffer.length());
-        for (int i = 0; i < buffer.length(); i++) {
-            add(hash, buffer.charAt(i));
-        }
-        return hash[0];
-    }
-
-    private static void add(long[] hash, long value) {
-        hash[0] = 31 * hash[0] + value;
+        Check.same("38: set aside", Digests.due(chip, true, "t1;w!~", 77), chip.digest());
     }
 }
