@@ -559,9 +559,14 @@ final class LookSentences extends Sentences {
             same("nine", 9, chip.order(0, 4));
             chip.undo();
             same("four again", 4, chip.order(0, 4));
-            chip.pass(1);
+            chip.withdraw(1);
+            chip.withdraw(2);
+            chip.pass(7);
+            chip.post(1, 0, 0);
+            same("another one", 0, chip.order(0, 4));
             chip.goBack();
             same("as it was kept", 4, chip.order(0, 4));
+            same("as that was kept", 3, chip.order(1, 4));
         });
         held("5: how many values it has, 0 for an erase", () -> {
             BusyChip chip = new BusyChip();
@@ -757,6 +762,14 @@ final class LookSentences extends Sentences {
                 chip.undo();
             }
             same("undone", 3, chip.count(12));
+            BusyChip first = new BusyChip();
+            first.set(1, 1);
+            first.set(2, 31);
+            for (int n = 1; n <= 32; n++) {
+                same("none yet", 0, first.count(12));
+                eraseWholly(first, 0);
+            }
+            same("one of the cell 0", 1, first.count(12));
         });
         held("13: unsure pages", () -> {
             BusyChip chip = emptied(7, 0);

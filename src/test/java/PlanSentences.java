@@ -349,17 +349,17 @@ final class PlanSentences extends Sentences {
             eraseWholly(chip, 0);
             chip.set(0, 1);
             for (int page = 16; page < 20; page++) {
-                writeWholly(chip, 8 * page, 9, 9, 9, 9, 9, 9, 9, 9);
+                writeWholly(chip, 8 * page, 1, 1, 1, 1, 1, 1, 1, 1);
             }
-            same("128 hold 255, 96 hold 0, 32 hold 9", 255, chip.commonest());
+            same("128 hold 255, 96 hold 0, 32 hold 1", 255, chip.commonest());
             for (int page = 20; page < 28; page++) {
-                writeWholly(chip, 8 * page, 9, 9, 9, 9, 9, 9, 9, 9);
+                writeWholly(chip, 8 * page, 1, 1, 1, 1, 1, 1, 1, 1);
             }
-            same("96 hold 0, 96 hold 9, 64 hold 255", 0, chip.commonest());
+            same("96 hold 0, 96 hold 1, 64 hold 255", 0, chip.commonest());
             chip.arm();
             chip.erase(1);
             chip.pass(5);
-            same("64 hold 0, 96 hold 9, 96 hold 255", 9, chip.commonest());
+            same("64 hold 0, 96 hold 1, 96 hold 255", 1, chip.commonest());
         });
     }
 
@@ -538,12 +538,25 @@ final class PlanSentences extends Sentences {
                 chip.arm();
                 return chip;
             });
+            mixed(() -> {
+                BusyChip chip = new BusyChip();
+                lockWholly(chip, 4, 1);
+                chip.arm();
+                return chip;
+            });
         });
-        held("misses of the cell 0", () -> mixed(() -> {
-            BusyChip chip = emptied(0);
-            load(chip, 1, 2, 0);
-            return chip;
-        }, 1, 2, 0));
+        held("misses of the cell 0", () -> {
+            mixed(() -> {
+                BusyChip chip = emptied(0);
+                load(chip, 1, 2, 0);
+                return chip;
+            }, 1, 2, 0);
+            mixed(() -> {
+                BusyChip chip = obeyed("w0:00;t2");
+                chip.load(1);
+                return chip;
+            }, 1);
+        });
         held("fits", () -> {
             mixed(() -> {
                 BusyChip chip = emptied(0, 1);

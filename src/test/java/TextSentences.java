@@ -252,6 +252,37 @@ final class TextSentences extends Sentences {
             same("the number of orders", 0, chip.post(1, 0, 0));
             same("erasures", 0, chip.sector(0, 0));
             same("settings", 20, chip.setting(1));
+            BusyChip locks = new BusyChip();
+            lockWholly(locks, 2, 0);
+            locks.undo();
+            same("the locks", 0, locks.count(3));
+            same("their side", 1, locks.count(4));
+            same("the side that is to be", 5, locks.pass(9));
+            same("is", 0, locks.count(4));
+        });
+        held("saves the state from before it", () -> {
+            BusyChip chip = new BusyChip();
+            chip.set(0, 3);
+            load(chip, 1, 2);
+            chip.arm();
+            chip.write(7);
+            chip.pass(2);
+            chip.pass(9);
+            chip.set(0, 1);
+            load(chip, 3);
+            chip.arm();
+            chip.write(16);
+            for (int i = 0; i < 5; i++) {
+                chip.undo();
+            }
+            works(chip, 0, 1, 7, 4, -1, 0);
+            chip.pass(1);
+            cells(chip, 7, 1);
+            chip.pass(2);
+            cells(chip, 0, 255);
+            same("the pace that the write had", 1, chip.pass(5));
+            cells(chip, 0, 2);
+            cells(chip, 16, 255);
         });
         held("but the buffer, the snapshot and the saved states", () -> {
             BusyChip chip = new BusyChip();

@@ -676,14 +676,16 @@ final class WorkSentences extends Sentences {
             chip.arm();
             chip.write(250);
             chip.pass(3);
-            int[] before = new int[256];
-            for (int cell = 0; cell < 256; cell++) {
-                before[cell] = chip.cell(cell, 0);
+            int[] before = new int[96];
+            for (int i = 0; i < 96; i++) {
+                before[i] = chip.cell((224 + i) % 256, 0);
             }
+            long ones = chip.count(5);
             chip.cut();
-            for (int cell = 0; cell < 256; cell++) {
-                same("cell(" + cell + ", 0)", before[cell], chip.cell(cell, 0));
+            for (int i = 0; i < 96; i++) {
+                same("a cell of the sectors 7, 0 and 1, " + i, before[i], chip.cell((224 + i) % 256, 0));
             }
+            same("bits that are 1", ones, chip.count(5));
         });
         held("The page of a write that is lost is unsure then", () -> {
             for (int page = 0; page < 32; page++) {
