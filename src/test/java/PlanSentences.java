@@ -342,6 +342,15 @@ final class PlanSentences extends Sentences {
             chip.erase(4);
             chip.pass(5);
             same("fewer do", 255, chip.commonest());
+            BusyChip one = emptied(0, 1, 2);
+            for (int page = 12; page < 15; page++) {
+                writeWholly(one, 8 * page, new int[8]);
+            }
+            writeWholly(one, 120, 0, 0, 0, 0, 0, 0, 0, 1);
+            same("128 hold 255, 127 hold 0, one holds 1", 255, one.commonest());
+            writeWholly(one, 127, 0);
+            writeWholly(one, 255, 1);
+            same("128 hold 0, 127 hold 255, one holds 1", 0, one.commonest());
         });
         held("of several the least", () -> {
             BusyChip chip = emptied(0, 1, 2, 3);
